@@ -1047,9 +1047,10 @@ public final class SpentTurns {
 
         /** A new street's turns know nothing of laws that were told for an older one there. */
         private void forgetTurns(int x, int y) {
+            int arc = arcOf(x, y);
             for (int z = 0; z < CROSSINGS; z++) {
-                setUses(turnOf(x, y, z), z == x ? usesForHalf : usesForAll);
-                setUses(turnOf(z, x, y), z == y ? usesForHalf : usesForAll);
+                setUses(arc * CROSSINGS + z, z == x ? usesForHalf : usesForAll);
+                setUses(z * ARCS + arc, z == y ? usesForHalf : usesForAll);
             }
         }
 
@@ -1138,7 +1139,8 @@ public final class SpentTurns {
             } else {
                 blame(MISPLACED);
             }
-            pass(kind == SIGN);
+            check(kind == SIGN, MISPLACED);
+            advance();
             draft.lines++;
         }
 
@@ -1160,9 +1162,10 @@ public final class SpentTurns {
 
         private void readStreet() {
             passWord("street");
-            int x = crossing();
+            int last = draft.crossings - 1;
+            int x = number(0, last);
             advance();
-            int y = crossing();
+            int y = number(0, last);
             check(x != y, OUT_OF_BOUNDS);
             advance();
             int length = number(1, MOST_LENGTH);
@@ -1176,12 +1179,13 @@ public final class SpentTurns {
 
         private void readTurn() {
             passWord("turn");
-            int x = crossing();
+            int last = draft.crossings - 1;
+            int x = number(0, last);
             advance();
-            int y = crossing();
+            int y = number(0, last);
             check(draft.lengths[arcOf(x, y)] > 0, OUT_OF_BOUNDS);
             advance();
-            int z = crossing();
+            int z = number(0, last);
             check(draft.lengths[arcOf(y, z)] > 0, OUT_OF_BOUNDS);
             advance();
             passWord("uses");
@@ -1195,9 +1199,10 @@ public final class SpentTurns {
         private void readErrand() {
             check(draft.errandCount < MOST_ERRANDS, TOO_MANY);
             passWord("errand");
-            int x = crossing();
+            int last = draft.crossings - 1;
+            int x = number(0, last);
             advance();
-            int y = crossing();
+            int y = number(0, last);
             check(x != y, OUT_OF_BOUNDS);
             advance();
             passWord("at");
@@ -1207,10 +1212,6 @@ public final class SpentTurns {
                 draft.setErrand(draft.errandCount, x, y, hour);
                 draft.errandCount++;
             }
-        }
-
-        private int crossing() {
-            return number(0, draft.crossings - 1);
         }
 
         /** The number that stands here; it is passed only when all that is asked of it has been looked at. */
@@ -1233,11 +1234,7 @@ public final class SpentTurns {
         }
 
         private void passWord(String word) {
-            pass(isWord(word));
-        }
-
-        private void pass(boolean fits) {
-            check(fits, MISPLACED);
+            check(isWord(word), MISPLACED);
             advance();
         }
 
@@ -1346,35 +1343,33 @@ public final class SpentTurns {
 
         /** What it costs from the beginning of each arc, that arc itself with it, to the end at y. */
         private void priceArcs(Town town, int[] rest, int y, int mode) {
-            Arrays.fill(costs, FAR);
+            for (int i = 0; i < town.arcCount; i++) {
+                int arc = town.arcs[i];
+                costs[arc] = arc % CROSSINGS == y ? priceOf(town, arc) : FAR;
+            }
             boolean changed = true;
             for (int round = 0; round <= ARCS && changed; round++) {
                 changed = false;
-                for (int i = 0; i < town.arcCount; i++) {
-                    int arc = town.arcs[i];
-                    int price = LENGTH_COST * town.lengths[arc] + STREET_COST;
-                    int onward = arc % CROSSINGS == y ? 0 : cheapestOnward(town, rest, arc, mode);
-                    if (onward < FAR && price + onward < costs[arc]) {
-                        costs[arc] = price + onward;
+                for (int i = 0; i < town.turnCount; i++) {
+                    int turn = town.turns[i];
+                    int arc = turn / CROSSINGS;
+                    int price = priceOf(town, arc) + costOver(rest, turn, mode);
+                    if (price < costs[arc]) {
+                        costs[arc] = price;
                         changed = true;
                     }
                 }
             }
         }
 
-        private int cheapestOnward(Town town, int[] rest, int arc, int mode) {
-            int by = arc % CROSSINGS;
-            int best = FAR;
-            for (int i = 0; i < town.degrees[by]; i++) {
-                best = Math.min(best, costOver(rest, arc, town.nearby[arcOf(by, i)], mode));
-            }
-            return best;
+        private int priceOf(Town town, int arc) {
+            return LENGTH_COST * town.lengths[arc] + STREET_COST;
         }
 
-        private int costOver(int[] rest, int arc, int z, int mode) {
-            int turn = arc * CROSSINGS + z;
-            int onward = costs[arcOutOf(turn)];
-            if (rest[turn] > 0 || mode == BARE || onward >= FAR) {
+        /** What it costs to go on by a turn, the turn itself with it; FAR, or more, if one can't. */
+        private int costOver(int[] rest, int turn, int mode) {
+            int onward = costs[turn % ARCS];
+            if (rest[turn] > 0 || mode == BARE) {
                 return onward;
             }
             return mode == BY_BUYING ? BUY_COST + onward : FAR;
@@ -1387,7 +1382,7 @@ public final class SpentTurns {
             int next = NONE;
             for (int i = 0; i < town.degrees[at]; i++) {
                 int z = town.nearby[arcOf(at, i)];
-                int price = count < 2 ? costs[arcOf(at, z)] : costOver(rest, arcOf(found[count - 2], at), z, mode);
+                int price = count < 2 ? costs[arcOf(at, z)] : costOver(rest, turnOf(found[count - 2], at, z), mode);
                 if (price < best) {
                     best = price;
                     next = z;

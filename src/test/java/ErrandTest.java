@@ -73,6 +73,13 @@ public final class ErrandTest {
         CHECK.due("least() with two uses", s.least(), 2 + 3);
         s.undo();
         CHECK.due("first(0) behind undo", s.first(0), 1);
+        s.give(1, 2, 3);
+        CHECK.due("first(0) behind give", s.first(0), 0);
+        s.anew();
+        CHECK.due("first(0) behind anew", s.first(0), 1);
+        s.take(1, 2, 3);
+        CHECK.due("dawn() behind take", s.dawn(), 1);
+        s.anew();
         s.send(0, 0, 1, 5);
         CHECK.due("first(0) behind send", s.first(0), 0);
         CHECK.due("least() behind send", s.least(), 1 + 2);
@@ -84,6 +91,9 @@ public final class ErrandTest {
         CHECK.due("least() behind build", s.least(), 1 + 2);
         s.back(0);
         CHECK.due("dawn() behind back", s.dawn(), 1);
+        Check.tape(s, CROWDED);
+        s.town();
+        CHECK.due("dawn() behind town", s.dawn(), 2);
         SpentTurns all = Check.town(TownTest.TOWN);
         CHECK.due("dawn() where one goes", all.dawn(), 1);
         for (int i = 0; i < 3; i++) CHECK.due("first(" + i + ")", all.first(i), i);

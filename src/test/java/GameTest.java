@@ -70,6 +70,17 @@ public final class GameTest {
         // now 2 loses by the half turn at 2, and so does 0, behind which 2 alone is open
         CHECK.due("wins(0, 1) without 3", s.wins(0, 1), 0);
         CHECK.due("turn(0, 1) without 3", s.turn(0, 1), -1);
+        // all is forced behind the first turn: by 2 or by 4 all seven are taken
+        SpentTurns again = Check.town("town crossings 5 uses 0 half 0;street 0 1 1;street 1 2 1;street 1 4 1;turn 0 1 2 uses 1;"
+                + "turn 0 1 4 uses 1;turn 1 2 1 uses 1;turn 1 4 1 uses 1;turn 2 1 0 uses 1;turn 1 0 1 uses 1;turn 4 1 0 uses 1;");
+        CHECK.due("wins(0, 1) of seven", again.wins(0, 1), 1);
+        CHECK.due("turn(0, 1) of seven", again.turn(0, 1), 2);
+        again.take(4, 1, 0);
+        // by 2 six are taken, by 4 two, so that the other has the last
+        CHECK.due("wins(0, 1) of six", again.wins(0, 1), 0);
+        again.take(2, 1, 0);
+        again.take(1, 4, 1);
+        CHECK.due("turn(0, 1) by 4 alone", again.turn(0, 1), 4);
     }
 
     private static void bounds() {

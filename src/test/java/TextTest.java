@@ -105,6 +105,9 @@ public final class TextTest {
         faulty(";", 1, 0);
         faulty(" Town", 1, 1);
         faulty("towns crossings 3", 1, 0);
+        faulty("townz crossings 3", 1, 0);
+        faulty("sown crossings 3", 1, 0);
+        faulty("towm crossings 3", 1, 0);
         faulty("town", 1, 4);
         faulty("town ", 1, 5);
         faultyLast("town uses", 1, 4);
