@@ -886,7 +886,7 @@ public final class SpentTurns {
     }
 
     private static int turnOf(int x, int y, int z) {
-        return arcOf(x, y) * CROSSINGS + z;
+        return (x * CROSSINGS + y) * CROSSINGS + z;
     }
 
     private static int fromOf(int turn) {

@@ -140,6 +140,10 @@ public final class ErrandTest {
         s.take(1, 2, 4);
         CHECK.due("demand(0, 1, 2) without a way", s.demand(0, 1, 2), 0);
         CHECK.due("dearest() of none", s.dearest(), -1);
+        // 2 0 1 0 3: each turn once, the half turn 0 1 0 is the least of all
+        SpentTurns about = Check.town("town crossings 4 uses 1 half 1;street 0 1 1;street 0 2 1;street 0 3 1;turn 2 0 3 uses 0;errand 2 3 at 1;");
+        CHECK.due("dearest(), the first turn of all", about.dearest(), 10);
+        CHECK.due("demand(1, 0, 3)", about.demand(1, 0, 3), 1);
     }
 
     private static void noon() {

@@ -1,15 +1,18 @@
 import java.lang.reflect.Method;
 import java.lang.reflect.Modifier;
 import java.util.ArrayList;
+import java.util.Arrays;
 import java.util.Collections;
 import java.util.Comparator;
 import java.util.List;
 import java.util.Random;
+import java.util.Set;
 
 /** Runs of drawn calls on the class and on the oracle: all answers must be the same. */
 public final class OracleTest {
     private static final int RUNS = 500;
     private static final int CALLS = 200;
+    private static final int GAMES = 300;
 
     private final Check check = new Check("OracleTest");
     private final Random random;
@@ -19,6 +22,7 @@ public final class OracleTest {
     private Oracle oracle;
     private String history;
     private int crossings = 4;
+    private static final Set<String> TURN_FIRST = Set.of("uses", "left", "take", "give", "loss", "spent", "demand", "law");
     private int lastSlot;
 
     private OracleTest(long seed) throws ReflectiveOperationException {
@@ -36,6 +40,7 @@ public final class OracleTest {
     public static void main(String[] args) throws ReflectiveOperationException {
         OracleTest test = new OracleTest(20261118L);
         for (int run = 0; run < RUNS; run++) test.run(run);
+        for (int run = 0; run < GAMES; run++) test.play(run);
         test.check.close();
     }
 
@@ -46,12 +51,35 @@ public final class OracleTest {
         if (random.nextInt(20) > 0) tell(randomTown());
         for (int i = 0; i < CALLS; i++) {
             int kind = random.nextInt(60);
-            if (kind == 0) {
+            if (kind == 0 && random.nextInt(3) == 0) {
                 tell(random.nextBoolean() ? randomTown() : spoilt(randomTown()));
             } else if (kind < 4) {
                 writeRow();
             } else {
                 askAny();
+            }
+        }
+    }
+
+    /** Games by few uses here and there, from each arc. */
+    private void play(int number) {
+        subject = new SpentTurns();
+        oracle = new Oracle();
+        history = "game " + number;
+        int n = 3 + random.nextInt(3);
+        StringBuilder text = new StringBuilder("town crossings " + n + " uses 0 half 0;");
+        addStreets(text, n, n + random.nextInt(2));
+        tell(text.toString());
+        for (int i = 0; i < 12; i++) {
+            int[] turn = anyTurn();
+            compare("give" + Arrays.toString(turn), subject.give(turn[0], turn[1], turn[2]), oracle.give(turn[0], turn[1], turn[2]));
+            compare("round()", subject.round(), oracle.round());
+            compare("uneven()", subject.uneven(), oracle.uneven());
+        }
+        for (int x = 0; x < n; x++) {
+            for (int y = 0; y < n; y++) {
+                compare("wins(" + x + ", " + y + ")", subject.wins(x, y), oracle.wins(x, y));
+                compare("turn(" + x + ", " + y + ")", subject.turn(x, y), oracle.turn(x, y));
             }
         }
     }
@@ -78,17 +106,10 @@ public final class OracleTest {
     }
 
     private String randomTown() {
-        int n = 2 + random.nextInt(5);
-        int uses = random.nextInt(3);
+        int n = 2 + random.nextInt(4);
+        int uses = random.nextInt(5) / 2;
         StringBuilder text = new StringBuilder("town crossings " + n + " uses " + uses + " half " + random.nextInt(3) + ";");
-        List<int[]> streets = new ArrayList<>();
-        int many = random.nextInt(8);
-        for (int i = 0; i < many; i++) {
-            int x = random.nextInt(n);
-            int y = (x + 1 + random.nextInt(n - 1)) % n;
-            streets.add(new int[] {x, y});
-            text.append("street ").append(x).append(' ').append(y).append(blank()).append(1 + random.nextInt(3)).append(";");
-        }
+        List<int[]> streets = addStreets(text, n, random.nextInt(3) == 0 ? random.nextInt(3) : n - 1 + random.nextInt(3));
         if (!streets.isEmpty()) addTurns(text, streets);
         int errands = random.nextInt(5);
         for (int i = 0; i < errands; i++) {
@@ -97,6 +118,18 @@ public final class OracleTest {
             text.append("errand ").append(x).append(' ').append(y).append(" at ").append(random.nextInt(24)).append(blank()).append(";");
         }
         return text.toString();
+    }
+
+    /** Each street hangs together with those ahead of it. */
+    private List<int[]> addStreets(StringBuilder text, int n, int many) {
+        List<int[]> streets = new ArrayList<>();
+        for (int i = 0; i < Math.min(many, 6); i++) {
+            int x = i < n - 1 ? i + 1 : random.nextInt(n);
+            int y = i < n - 1 ? random.nextInt(i + 1) : (x + 1 + random.nextInt(n - 1)) % n;
+            streets.add(new int[] {x, y});
+            text.append("street ").append(x).append(' ').append(y).append(blank()).append(1 + random.nextInt(3)).append(";");
+        }
+        return streets;
     }
 
     private void addTurns(StringBuilder text, List<int[]> streets) {
@@ -141,11 +174,7 @@ public final class OracleTest {
         List<Integer> stops = new ArrayList<>(List.of(random.nextInt(crossings)));
         int many = random.nextInt(6);
         for (int i = 0; i < many; i++) {
-            int bits = Math.max(0, oracle.beside(stops.get(i)));
-            List<Integer> options = new ArrayList<>();
-            for (int z = 0; z < 8; z++) if ((bits >> z & 1) == 1) options.add(z);
-            if (options.isEmpty() || random.nextInt(30) == 0) options.add(random.nextInt(crossings));
-            stops.add(options.get(random.nextInt(options.size())));
+            stops.add(random.nextInt(30) == 0 ? random.nextInt(crossings) : anyBeside(stops.get(i)));
         }
         List<Integer> numbers = new ArrayList<>();
         if (isSeen) for (int i = 2; i < stops.size(); i++) numbers.addAll(stops.subList(i - 2, i + 1));
@@ -184,8 +213,9 @@ public final class OracleTest {
         Class<?>[] types = method.getParameterTypes();
         Object[] args = new Object[types.length];
         StringBuilder call = new StringBuilder(method.getName()).append('(');
+        int[] turn = TURN_FIRST.contains(method.getName()) && random.nextInt(8) > 0 ? anyTurn() : null;
         for (int i = 0; i < types.length; i++) {
-            int v = argument(method.getName(), i);
+            int v = turn != null && i < 3 ? turn[i] : argument(method.getName(), i);
             args[i] = types[i] == long.class ? (Object) (long) v : (Object) v;
             call.append(i > 0 ? ", " : "").append(v);
         }
@@ -194,10 +224,23 @@ public final class OracleTest {
         compare(call.append(')').toString(), got, want);
     }
 
+    private int[] anyTurn() {
+        int y = random.nextInt(crossings);
+        return new int[] {anyBeside(y), y, anyBeside(y)};
+    }
+
+    private int anyBeside(int x) {
+        List<Integer> options = new ArrayList<>();
+        int bits = Math.max(0, oracle.beside(x));
+        for (int z = 0; z < 8; z++) if ((bits >> z & 1) == 1) options.add(z);
+        return options.isEmpty() ? random.nextInt(crossings) : options.get(random.nextInt(options.size()));
+    }
+
     private int argument(String name, int i) {
         int odd = random.nextInt(60);
         if (odd == 0) return -1;
         if (odd == 1) return random.nextInt();
+        if (random.nextInt(3) == 0 && name.equals("noon")) return (1 << Math.max(0, oracle.count(5))) - 1;
         if (name.equals("drawn") || name.equals("strays")) {
             if (i == 0) return random.nextInt(2000000001);
             if (name.equals("drawn") ? i == 2 : i == 1 || i == 3) return random.nextInt(22);
