@@ -97,12 +97,19 @@ public final class WalkTest {
         Check.row(s, 3, 0, 0, 1, 2, 1, 2, 3, 2, 3, 0, 3, 0, 1);
         for (int x = 0; x < 4; x++) CHECK.due("fits of a round from " + x, s.fits(3, x), 1);
         CHECK.due("gone of a round", s.gone(3, 2), 1 << 3);
-        Check.row(s, 3, 0, 0, 1, 0, 1, 0, 1, 0, 1, 0, 1, 0, 1, 0, 1, 0, 1, 0, 1, 0, 1, 0, 1, 0, 1, 0, 1);
+        Check.row(s, 3, 0, toAndFro(9));
         CHECK.due("fits of nine", s.fits(3, 0), -2);
         CHECK.due("gone of nine", s.gone(3, 0), -2);
-        Check.row(s, 3, 0, 0, 1, 0, 1, 0, 1, 0, 1, 0, 1, 0, 1, 0, 1, 0, 1, 0, 1, 0, 1, 0, 1, 0, 1);
+        Check.row(s, 3, 0, toAndFro(8));
         CHECK.due("fits of eight", s.fits(3, 0), 1);
         CHECK.due("gone of eight", s.gone(3, 0), 2);
+    }
+
+    /** The turns of one who goes 0 1 0 1 .. */
+    private static long[] toAndFro(int turns) {
+        long[] row = new long[3 * turns];
+        for (int i = 0; i < row.length; i++) row[i] = (i / 3 + i % 3) % 2;
+        return row;
     }
 
     private static void fitsWrong() {

@@ -122,6 +122,12 @@ public final class WayTest {
         CHECK.due("shut() of one street", none.shut(), 4);
         CHECK.due("reach(2) of one street", none.reach(2), 4);
         CHECK.due("key() of none", none.key(), -1);
+        // 2 0 1 0 3 and back: the half turn 0 1 0 is the least of four that shut in as many
+        SpentTurns about = Check.town("town crossings 4 uses 1 half 1;street 0 1 1;street 0 2 1;street 0 3 1;turn 2 0 3 uses 0;turn 3 0 2 uses 0;");
+        CHECK.due("loss(0, 1, 0)", about.loss(0, 1, 0), 2);
+        CHECK.due("loss(2, 0, 1)", about.loss(2, 0, 1), 2);
+        CHECK.due("loss(1, 0, 3)", about.loss(1, 0, 3), 2);
+        CHECK.due("key(), the first turn of all", about.key(), 10);
     }
 
     private static void flows() {
