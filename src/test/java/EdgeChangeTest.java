@@ -402,6 +402,23 @@ public final class EdgeChangeTest {
         CHECK.due("anew()", s.anew(), 60);
     }
 
+    static void p63_whatWasTakenThen() {
+        SpentTurns s = line();
+        s.take(0, 1, 2);
+        s.give(2, 1, 0);
+        s.keep(0);
+        s.anew();
+        s.give(1, 2, 1);
+        s.take(0, 1, 0);
+        s.back(0);
+        int[][] due = {{0, 1, 2, 1}, {2, 1, 0, 0}};
+        for (int i = 0; i < 2; i++)
+            for (int what = 0; what < 4; what++) CHECK.due("led(" + i + ", " + what + ")", s.led(i, what), due[i][what]);
+        s.anew();
+        CHECK.due("left(0, 1, 2)", s.left(0, 1, 2), 5);
+        CHECK.due("left(2, 1, 0)", s.left(2, 1, 0), 2);
+    }
+
     static void p63_imageStaysAsItIs() {
         SpentTurns s = line();
         s.keep(0);

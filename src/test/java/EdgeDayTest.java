@@ -220,6 +220,33 @@ public final class EdgeDayTest {
         CHECK.due("dawn() behind undo", s.dawn(), 2);
     }
 
+    static void p36_behindEachChange() {
+        SpentTurns s = Check.town(CROWDED + "errand 0 3 at 0;errand 1 3 at 23;");
+        CHECK.due("dawn()", s.dawn(), 2);
+        s.law(0, 4, 3, 0);
+        CHECK.due("dawn() behind law", s.dawn(), 1);
+        s.keep(0);
+        s.build(1, 3, 1);
+        CHECK.due("dawn() behind build", s.dawn(), 2);
+        s.back(0);
+        CHECK.due("dawn() behind back", s.dawn(), 1);
+        s.send(1, 4, 3, 0);
+        CHECK.due("dawn() behind send", s.dawn(), 2);
+        s.take(0, 1, 2);
+        CHECK.due("dawn() behind take", s.dawn(), 1);
+        s.anew();
+        CHECK.due("dawn() behind anew", s.dawn(), 2);
+        s.take(0, 1, 2);
+        s.dawn();
+        s.give(0, 1, 2);
+        CHECK.due("dawn() behind give", s.dawn(), 2);
+        s.undo();
+        CHECK.due("dawn() behind undo", s.dawn(), 1);
+        Check.tape(s, ONE + "errand 0 2 at 0;errand 1 2 at 0;errand 0 1 at 0;");
+        s.town();
+        CHECK.due("dawn() behind town", s.dawn(), 3);
+    }
+
     static void p36_noTown() {
         CHECK.due("dawn()", new SpentTurns().dawn(), -2);
     }
@@ -358,6 +385,17 @@ public final class EdgeDayTest {
         CHECK.stays(s, "demand(0, 1, 2)", () -> s.demand(0, 1, 2), 1);
     }
 
+    static void p40_behindOtherCalls() {
+        SpentTurns s = Check.town(ONE + "errand 0 2 at 3;");
+        s.wide(0, 8);
+        s.loss(0, 1, 0);
+        CHECK.due("demand(0, 1, 2)", s.demand(0, 1, 2), 1);
+        CHECK.due("demand(0, 1, 2) again", s.demand(0, 1, 2), 1);
+        s.wide(0, 8);
+        CHECK.due("dearest()", s.dearest(), 12);
+        CHECK.due("demand(0, 1, 0)", s.demand(0, 1, 0), 0);
+    }
+
     static void p40_noneSuch() {
         for (int[] t : NO_TURNS) CHECK.due("demand of no turn", Check.town(ONE).demand(t[0], t[1], t[2]), -1);
     }
@@ -398,6 +436,12 @@ public final class EdgeDayTest {
         CHECK.due("dearest()", s.dearest(), 765);
     }
 
+    static void p41_theLowestTurn() {
+        // 2 0 1 0 3: each turn once
+        SpentTurns s = Check.town("town crossings 4 uses 1 half 1;street 0 1 1;street 0 2 1;street 0 3 1;turn 2 0 3 uses 0;errand 2 3 at 1;");
+        CHECK.due("dearest()", s.dearest(), 10);
+    }
+
     static void p41_noTown() {
         CHECK.due("dearest()", new SpentTurns().dearest(), -2);
     }
@@ -421,6 +465,12 @@ public final class EdgeDayTest {
 
     static void p42_whatTheyTakeIsGone() {
         CHECK.due("noon(3)", Check.town(ONE + "errand 0 2 at 3;errand 0 2 at 3;").noon(3), 1);
+    }
+
+    static void p42_oneUseOfSeveralIsGone() {
+        SpentTurns s = Check.town(ONE + "turn 0 1 2 uses 3;" + "errand 0 2 at 3;".repeat(4));
+        CHECK.due("noon(7)", s.noon(7), 0);
+        CHECK.due("noon(15)", s.noon(15), 1);
     }
 
     static void p42_whatTheyBuyIsGivenBackJustForThat() {

@@ -221,6 +221,14 @@ public final class EdgeGameTest {
         CHECK.due("chase(0, 2, 0)", Check.town(TWO_WAYS + "turn 0 1 2 uses 9;").chase(0, 2, 0), 4);
     }
 
+    static void p47_eachOfItsTurns() {
+        // he who comes by 0 1 2 can't, he who comes from 1 goes around by 4
+        SpentTurns s = Check.town("town crossings 5 uses 3 half 0;street 0 1 1;street 1 2 1;street 2 3 1;street 2 4 2;street 4 3 2;");
+        CHECK.due("chase(0, 3, 0)", s.chase(0, 3, 0), -1);
+        CHECK.due("chase(0, 3, 1)", s.chase(0, 3, 1), 5);
+        CHECK.due("chase(1, 3, 0)", s.chase(1, 3, 0), 6);
+    }
+
     static void p47_theThiefIsThere() {
         CHECK.due("chase(2, 2, 0)", Check.town(TWO_WAYS).chase(2, 2, 0), 2);
     }

@@ -612,6 +612,17 @@ public final class EdgeTextTest {
         faultyLast(HEAD + "stree", 1, 5);
     }
 
+    static void p04_eachLetterOfAWord() {
+        String[] lines = {HEAD, HEAD + "street 0 1 1;", HEAD + "street 0 1 1;turn 0 1 0 uses 1;", HEAD + "errand 0 1 at 1;"};
+        for (String text : lines)
+            for (int i = 0; i < text.length(); i++)
+                if (Character.isLetter(text.charAt(i))) faulty(text.substring(0, i) + "q" + text.substring(i + 1), 1, wordAt(text, i));
+    }
+
+    private static int wordAt(String text, int i) {
+        return i > 0 && Character.isLetter(text.charAt(i - 1)) ? wordAt(text, i - 1) : i;
+    }
+
     static void p04_longestNumber() {
         faultyLast("town crossings 22", 2, 2);
         faultyLast(HEAD + "street 01 1;", 2, 2);

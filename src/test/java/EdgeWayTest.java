@@ -349,6 +349,14 @@ public final class EdgeWayTest {
         for (int x = 0; x < 8; x++) CHECK.due("reach(" + x + ")", longest(1).reach(x), 255);
     }
 
+    static void p24_allOfAFullTown() {
+        // five crossings beside each other, and behind them a row of three
+        SpentTurns s = Check.town("town crossings 8 uses 3 half 3;street 0 1 1;street 0 2 1;street 0 3 1;street 0 4 1;street 1 2 1;street 1 3 1;"
+                + "street 1 4 1;street 2 3 1;street 2 4 1;street 3 4 1;street 4 5 1;street 5 6 1;street 6 7 1;");
+        for (int x = 0; x < 8; x++) CHECK.due("reach(" + x + ")", s.reach(x), 255);
+        CHECK.due("shut()", s.shut(), 0);
+    }
+
     static void p24_oneWayAlone() {
         SpentTurns s = Check.town(SPENT + "turn 0 1 2 uses 1;");
         CHECK.due("reach(0)", s.reach(0), 0b0111);
@@ -406,6 +414,12 @@ public final class EdgeWayTest {
 
     static void p26_theHighestTurn() {
         CHECK.due("key()", Check.town("town crossings 8 uses 0 half 0;street 7 6 1;street 6 5 1;turn 7 6 5 uses 1;").key(), 765);
+    }
+
+    static void p26_theLowestTurn() {
+        // from 2 to 3 and back one must turn at 1
+        SpentTurns s = Check.town("town crossings 4 uses 1 half 1;street 0 1 1;street 0 2 1;street 0 3 1;turn 2 0 3 uses 0;turn 3 0 2 uses 0;");
+        CHECK.due("key()", s.key(), 10);
     }
 
     static void p26_noTown() {
@@ -494,6 +508,23 @@ public final class EdgeWayTest {
         CHECK.due("flow(0, 7)", sixWays().flow(0, 7), 54);
     }
 
+    /** Who goes by 1 2 3 at first must go by 1 2 4 then, so that another can go by 6 2 3. */
+    private static SpentTurns crossed(int uses) {
+        StringBuilder text = new StringBuilder("town crossings 8 uses 0 half 0;street 0 1 1;street 1 2 1;street 2 3 1;street 3 7 1;"
+                + "street 2 4 1;street 4 5 1;street 5 7 1;street 0 6 1;street 6 2 1;");
+        for (String turn : new String[] {"0 1 2", "1 2 3", "2 3 7", "1 2 4", "2 4 5", "4 5 7", "0 6 2", "6 2 3"})
+            text.append("turn " + turn + " uses " + uses + ";");
+        return Check.town(text.toString());
+    }
+
+    static void p28_oneGivesWayToAnother() {
+        for (int uses = 0; uses <= 9; uses++) CHECK.due("flow(0, 7)", crossed(uses).flow(0, 7), 2 * uses);
+        SpentTurns s = crossed(5);
+        s.take(6, 2, 3);
+        s.take(6, 2, 3);
+        CHECK.due("flow(0, 7) with two less", s.flow(0, 7), 5 + 3);
+    }
+
     static void p28_oneTwice() {
         for (int x = 0; x < 4; x++) CHECK.due("flow", Check.town(PLENTY).flow(x, x), -2);
     }
@@ -542,6 +573,31 @@ public final class EdgeWayTest {
         CHECK.due("wall(0, 7, 0) behind give", s.wall(0, 7, 0), 123);
     }
 
+    static void p29_whereOneGivesWayToAnother() {
+        SpentTurns s = crossed(5);
+        CHECK.due("cut(0, 7)", s.cut(0, 7), 2);
+        CHECK.due("wall(0, 7, 0)", s.wall(0, 7, 0), 12);
+        CHECK.due("wall(0, 7, 1)", s.wall(0, 7, 1), 62);
+        s.take(2, 3, 7);
+        s.take(2, 4, 5);
+        CHECK.due("cut(0, 7) farther on", s.cut(0, 7), 2);
+        CHECK.due("wall(0, 7, 0) farther on", s.wall(0, 7, 0), 237);
+        CHECK.due("wall(0, 7, 1) farther on", s.wall(0, 7, 1), 245);
+    }
+
+    static void p29_asManyUsesTogether() {
+        SpentTurns s = crossed(5);
+        s.take(2, 3, 7);
+        s.take(4, 5, 7);
+        int sum = 0;
+        for (int i = 0; i < s.cut(0, 7); i++) {
+            int turn = s.wall(0, 7, i);
+            sum += s.left(turn / 100, turn / 10 % 10, turn % 10);
+        }
+        CHECK.due("uses of the cut", sum, s.flow(0, 7));
+        CHECK.due("flow(0, 7)", s.flow(0, 7), 8);
+    }
+
     static void p29_oneTwice() {
         CHECK.due("cut(2, 2)", Check.town(PLENTY).cut(2, 2), -2);
     }
@@ -560,6 +616,13 @@ public final class EdgeWayTest {
         SpentTurns s = sixWays();
         for (int i = 0; i < 6; i++) CHECK.due("wall(0, 7, " + i + ")", s.wall(0, 7, i), 10 * (i + 1) + 7);
         CHECK.due("wall(0, 7, 6)", s.wall(0, 7, 6), -1);
+    }
+
+    static void p30_theLowestTurn() {
+        SpentTurns s = Check.town("town crossings 4 uses 0 half 0;street 0 1 1;street 0 2 1;street 0 3 1;turn 2 0 1 uses 9;turn 0 1 0 uses 2;turn 1 0 3 uses 9;");
+        CHECK.due("flow(2, 3)", s.flow(2, 3), 2);
+        CHECK.due("cut(2, 3)", s.cut(2, 3), 1);
+        CHECK.due("wall(2, 3, 0)", s.wall(2, 3, 0), 10);
     }
 
     static void p30_noneSuch() {
