@@ -315,6 +315,7 @@ public final class EdgeDayTest {
 
     static void p38_notOfOrdersThatDoFewer() {
         CHECK.due("least()", Check.town(CROWDED + "errand 0 3 at 0;errand 1 3 at 0;").least(), 2 + 8);
+        CHECK.due("least() the other way about", Check.town(CROWDED + "errand 1 3 at 0;errand 0 3 at 0;").least(), 2 + 8);
     }
 
     static void p38_ofOneOrAnother() {
@@ -477,6 +478,13 @@ public final class EdgeDayTest {
         SpentTurns s = Check.town(ONE + "turn 0 1 2 uses 0;errand 0 2 at 3;errand 0 2 at 3;errand 0 2 at 3;");
         CHECK.due("noon(1)", s.noon(1), 1);
         CHECK.due("noon(7)", s.noon(7), 3);
+    }
+
+    static void p42_aShorterWayBehindALongerOne() {
+        // the second leaves 1 2 3 alone, so that the third has its other use
+        SpentTurns s = Check.town(INNER + "turn 0 1 2 uses 2;turn 1 2 3 uses 2;errand 0 3 at 1;errand 0 2 at 2;errand 1 3 at 3;");
+        CHECK.due("noon(7)", s.noon(7), 0);
+        CHECK.due("day()", s.day(), 3);
     }
 
     static void p42_inOrderOfNumbers() {

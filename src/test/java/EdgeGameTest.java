@@ -59,6 +59,16 @@ public final class EdgeGameTest {
         CHECK.due("round() of three", s.round(), 1);
     }
 
+    static void p43_askedAgain() {
+        SpentTurns s = Check.town("town crossings 3 uses 1 half 1;" + TRIANGLE);
+        CHECK.due("round() of all", s.round(), 1);
+        for (int x = 0; x < 3; x++)
+            for (int y = 0; y < 3; y++) s.take(x, y, x);
+        CHECK.due("round() of two apart", s.round(), 0);
+        s.anew();
+        CHECK.stays(s, "round() of all again", () -> s.round(), 1);
+    }
+
     static void p43_noTown() {
         CHECK.due("round()", new SpentTurns().round(), -2);
     }
@@ -132,6 +142,16 @@ public final class EdgeGameTest {
         CHECK.due("wins(0, 1) behind take", s.wins(0, 1), 1);
         s.give(0, 1, 0);
         CHECK.due("wins(0, 1) behind give", s.wins(0, 1), -1);
+    }
+
+    static void p45_looksOnByEachTurn() {
+        // by 0 the other goes on by 3 and wins; by 2 he can't go on
+        SpentTurns s = Check.town("town crossings 4 uses 0 half 0;street 0 1 1;street 1 2 1;street 0 3 1;"
+                + "turn 0 1 0 uses 1;turn 1 0 1 uses 1;turn 0 1 2 uses 1;turn 1 0 3 uses 1;");
+        CHECK.due("wins(0, 1)", s.wins(0, 1), 1);
+        CHECK.due("turn(0, 1)", s.turn(0, 1), 2);
+        CHECK.due("wins(1, 0)", s.wins(1, 0), 1);
+        CHECK.due("turn(1, 0)", s.turn(1, 0), 3);
     }
 
     static void p45_usesElsewhereCount() {
