@@ -1305,7 +1305,7 @@ public final class SpentTurns {
         private int count;
         private int cost;
         private final int[] queue = new int[ARCS];
-        private final boolean[] seen = new boolean[ARCS];
+        private final int[] seen = new int[ARCS];
 
         private int boughtTurns() {
             return cost / BUY_COST;
@@ -1406,7 +1406,7 @@ public final class SpentTurns {
         }
 
         private int within(Town town, int[] rest, int x) {
-            Arrays.fill(seen, false);
+            Arrays.fill(seen, 0);
             int bits = 1 << x;
             int size = 0;
             for (int i = 0; i < town.degrees[x]; i++) {
@@ -1426,10 +1426,10 @@ public final class SpentTurns {
         }
 
         private int visit(int arc, int size) {
-            if (seen[arc] || size >= ARCS) {
+            if (seen[arc] == 1 || size >= ARCS) {
                 return size;
             }
-            seen[arc] = true;
+            seen[arc] = 1;
             queue[size] = arc;
             return size + 1;
         }
@@ -1450,7 +1450,7 @@ public final class SpentTurns {
         private static final int MOST_WAYS = 9 * TURNS;
 
         private final int[] flows = new int[TURNS];
-        private final boolean[] seen = new boolean[ARCS];
+        private final int[] seen = new int[ARCS];
         private final int[] queue = new int[ARCS];
         private int queued;
         /** By which turn an arc was come to: the turn, or, where its flow was sent back, -1 less the turn. */
@@ -1471,7 +1471,7 @@ public final class SpentTurns {
 
         /** An arc into y that can be come to in what is left of the flow. */
         private int search(Town town, int x, int y) {
-            Arrays.fill(seen, false);
+            Arrays.fill(seen, 0);
             queued = 0;
             for (int i = 0; i < town.degrees[x]; i++) {
                 visit(arcOf(x, town.nearby[arcOf(x, i)]), SOURCE);
@@ -1508,8 +1508,8 @@ public final class SpentTurns {
         }
 
         private void visit(int arc, int turn) {
-            if (!seen[arc] && queued < ARCS) {
-                seen[arc] = true;
+            if (seen[arc] == 0 && queued < ARCS) {
+                seen[arc] = 1;
                 via[arc] = turn;
                 queue[queued] = arc;
                 queued++;
@@ -1545,7 +1545,7 @@ public final class SpentTurns {
 
         /** Only behind fill: its last search came to all arcs that can be come to. */
         private boolean cuts(Town town, int turn) {
-            return town.rest[turn] > 0 && seen[arcInto(turn)] && !seen[arcOutOf(turn)];
+            return town.rest[turn] > 0 && seen[arcInto(turn)] == 1 && seen[arcOutOf(turn)] == 0;
         }
 
         private int cutTurns(Town town) {
@@ -1734,7 +1734,7 @@ public final class SpentTurns {
         private final int[] rest = new int[TURNS];
         private final int[] balance = new int[ARCS];
         private final int[] queue = new int[ARCS];
-        private final boolean[] seen = new boolean[ARCS];
+        private final int[] seen = new int[ARCS];
 
         private int unevenArcs(Town town) {
             Arrays.fill(balance, 0);
@@ -1767,7 +1767,7 @@ public final class SpentTurns {
             }
             follow(town, begin);
             for (int i = 0; i < town.turnCount; i++) {
-                if (town.rest[town.turns[i]] > 0 && !seen[arcInto(town.turns[i])]) {
+                if (town.rest[town.turns[i]] > 0 && seen[arcInto(town.turns[i])] == 0) {
                     return false;
                 }
             }
@@ -1775,8 +1775,8 @@ public final class SpentTurns {
         }
 
         private void follow(Town town, int begin) {
-            Arrays.fill(seen, false);
-            seen[begin] = true;
+            Arrays.fill(seen, 0);
+            seen[begin] = 1;
             queue[0] = begin;
             int size = 1;
             for (int k = 0; k < size && k < ARCS; k++) {
@@ -1784,8 +1784,8 @@ public final class SpentTurns {
                 for (int i = 0; i < town.degrees[by]; i++) {
                     int turn = queue[k] * CROSSINGS + town.nearby[arcOf(by, i)];
                     int next = arcOutOf(turn);
-                    if (town.rest[turn] > 0 && !seen[next] && size < ARCS) {
-                        seen[next] = true;
+                    if (town.rest[turn] > 0 && seen[next] == 0 && size < ARCS) {
+                        seen[next] = 1;
                         queue[size] = next;
                         size++;
                     }

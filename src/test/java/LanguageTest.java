@@ -102,6 +102,8 @@ public final class LanguageTest {
         for (String sign : new String[] {"->", "::", "\\[\\]\\[\\]\\[\\]", "@"}) {
             CHECK.due("the sign " + sign, Pattern.compile(sign).matcher(code).find() ? 1 : 0, 0);
         }
+        // rule 4: Arrays.fill over arrays of numbers alone
+        CHECK.due("arrays of boolean", Pattern.compile("boolean\\s*\\[").matcher(code).find() ? 1 : 0, 0);
         CHECK.due("joining texts by +", Pattern.compile("\"\"\\s*\\+|\\+\\s*\"\"").matcher(code).find() ? 1 : 0, 0);
     }
 
