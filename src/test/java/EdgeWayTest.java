@@ -525,6 +525,17 @@ public final class EdgeWayTest {
         CHECK.due("flow(0, 7) with two less", s.flow(0, 7), 5 + 3);
     }
 
+    /** Three go straight on at 4; of two by 0 2 none may go on by 2 4 1 in the end, which one by 4 2 needs. */
+    private static SpentTurns givenWay() {
+        return Check.town("town crossings 5 uses 0 half 0;street 4 2 1;street 2 0 1;street 3 0 1;street 4 1 1;street 0 4 1;street 4 3 1;"
+                + "turn 3 4 1 uses 3;turn 2 4 1 uses 1;turn 3 4 2 uses 2;turn 0 2 4 uses 3;turn 0 4 1 uses 3;turn 3 0 2 uses 2;"
+                + "turn 0 2 0 uses 3;turn 4 2 4 uses 3;turn 2 0 4 uses 3;");
+    }
+
+    static void p28_whoGaveWayTakesItNoMore() {
+        CHECK.due("flow(3, 1)", givenWay().flow(3, 1), 3 + 2 + 1);
+    }
+
     static void p28_oneTwice() {
         for (int x = 0; x < 4; x++) CHECK.due("flow", Check.town(PLENTY).flow(x, x), -2);
     }
@@ -583,6 +594,12 @@ public final class EdgeWayTest {
         CHECK.due("cut(0, 7) farther on", s.cut(0, 7), 2);
         CHECK.due("wall(0, 7, 0) farther on", s.wall(0, 7, 0), 237);
         CHECK.due("wall(0, 7, 1) farther on", s.wall(0, 7, 1), 245);
+    }
+
+    static void p29_whereOneGaveWay() {
+        int[] due = {241, 302, 341};
+        CHECK.due("cut(3, 1)", givenWay().cut(3, 1), 3);
+        for (int i = 0; i < 3; i++) CHECK.due("wall(3, 1, " + i + ")", givenWay().wall(3, 1, i), due[i]);
     }
 
     static void p29_asManyUsesTogether() {
