@@ -48,12 +48,7 @@ public final class SpentTurns {
     private static final int BY_BUYING = 1;
     private static final int BARE = 2;
 
-    private final byte[] tape = new byte[TAPE_BYTES];
-    private int taped;
-    private int faultKind;
-    private int faultPlace;
     private final Town here;
-    private final Town draft;
     private final Town[] images;
     private final Numbers[] slots;
     private final Reader reader;
@@ -70,15 +65,13 @@ public final class SpentTurns {
     private int ordersTriedAt;
 
     public SpentTurns() {
-        faultPlace = NONE;
         here = new Town();
-        draft = new Town();
         images = new Town[IMAGES];
         slots = new Numbers[SLOTS];
         for (int i = 0; i < SLOTS; i++) {
             slots[i] = new Numbers();
         }
-        reader = new Reader(tape, draft);
+        reader = new Reader();
         ways = new Ways();
         streams = new Streams();
         today = new Day();
@@ -92,49 +85,39 @@ public final class SpentTurns {
     // ---- the tape and the town ----
 
     public int feed(int a, int b, int c, int d, int e) {
-        if (taped + FEED_BYTES > TAPE_BYTES) {
+        if (reader.taped + FEED_BYTES > TAPE_BYTES) {
             return NONE;
         }
-        lay(a);
-        lay(b);
-        lay(c);
-        lay(d);
-        lay(e);
-        return taped;
-    }
-
-    private void lay(int four) {
-        for (int shift = 24; shift >= 0 && taped < TAPE_BYTES; shift -= 8) {
-            tape[taped] = (byte) (four >> shift);
-            taped++;
-        }
+        reader.lay(a);
+        reader.lay(b);
+        reader.lay(c);
+        reader.lay(d);
+        reader.lay(e);
+        return reader.taped;
     }
 
     public int end(int n) {
-        if (n < 0 || n > taped) {
+        if (n < 0 || n > reader.taped) {
             return NONE;
         }
-        taped = n;
+        reader.taped = n;
         return n;
     }
 
     public int town() {
-        reader.read(taped);
-        taped = 0;
-        faultKind = reader.fault;
-        faultPlace = reader.place;
-        if (faultKind != 0) {
+        reader.read();
+        if (reader.fault != 0) {
             return FAULTY;
         }
-        here.become(draft);
+        here.become(reader.draft);
         changes++;
         return here.lines;
     }
 
     public int fault(int what) {
         switch (what) {
-            case 0: return faultKind;
-            case 1: return faultPlace;
+            case 0: return reader.fault;
+            case 1: return reader.place;
             default: return NONE;
         }
     }
@@ -791,7 +774,7 @@ public final class SpentTurns {
             case 6: return here.sumOf(here.rest);
             case 7: return here.ledCount;
             case 8: return here.lines;
-            case 9: return taped;
+            case 9: return reader.taped;
             case 10: return standingSlots();
             default: return NONE;
         }
@@ -972,6 +955,7 @@ public final class SpentTurns {
             return errand >= 0 && errand < errandCount;
         }
 
+        /** Its lists stay as they are: a town that is read is settled when another becomes it. */
         private void clear() {
             crossings = 0;
             usesForAll = 0;
@@ -981,7 +965,6 @@ public final class SpentTurns {
             errandCount = 0;
             ledCount = 0;
             Arrays.fill(lengths, 0);
-            settle();
         }
 
         private void become(Town other) {
@@ -1081,7 +1064,7 @@ public final class SpentTurns {
         }
     }
 
-    /** Reads a town from the tape and stops at the first fault. */
+    /** The tape, and the town that is read from it up to the first fault. */
     private static final class Reader {
         private static final int END = 0;
         private static final int WORD = 1;
@@ -1096,32 +1079,33 @@ public final class SpentTurns {
         /** Far above every bound, so that digits without end stay out of bounds and never wrap. */
         private static final int HUGE = 1000000;
 
-        private final byte[] bytes;
-        private final Town draft;
-        private int size;
+        private final byte[] tape = new byte[TAPE_BYTES];
+        private final Town draft = new Town();
+        private int taped;
         private int kind;
         private int start;
         private int stop;
         private int fault;
-        private int place;
+        private int place = NONE;
 
-        private Reader(byte[] tape, Town target) {
-            bytes = tape;
-            draft = target;
-            place = NONE;
+        private void lay(int four) {
+            for (int shift = 24; shift >= 0 && taped < TAPE_BYTES; shift -= 8) {
+                tape[taped] = (byte) (four >> shift);
+                taped++;
+            }
         }
 
-        private void read(int taped) {
-            size = Math.min(taped, TAPE_BYTES);
+        /** The tape is empty behind it, with a fault, too: the next text begins anew. */
+        private void read() {
             fault = 0;
             place = NONE;
             stop = 0;
             draft.clear();
             advance();
-            for (int i = 0; i <= size && kind != END && fault == 0; i++) {
+            for (int i = 0; i <= taped && kind != END && fault == 0; i++) {
                 readLine();
             }
-            draft.settle();
+            taped = 0;
         }
 
         private void readLine() {
@@ -1228,7 +1212,7 @@ public final class SpentTurns {
         private int valueHere() {
             int value = 0;
             for (int i = start; i < stop; i++) {
-                value = Math.min(value * 10 + (bytes[i] - '0'), HUGE);
+                value = Math.min(value * 10 + (tape[i] - '0'), HUGE);
             }
             return value;
         }
@@ -1256,7 +1240,7 @@ public final class SpentTurns {
                 return false;
             }
             for (int i = 0; i < word.length(); i++) {
-                if (bytes[start + i] != word.charAt(i)) {
+                if (tape[start + i] != word.charAt(i)) {
                     return false;
                 }
             }
@@ -1269,13 +1253,13 @@ public final class SpentTurns {
                 return;
             }
             start = stop;
-            while (start < size && (bytes[start] == ' ' || bytes[start] == '\n')) {
+            while (start < taped && (tape[start] == ' ' || tape[start] == '\n')) {
                 start++;
             }
             stop = start;
             kind = kindAt(start);
             if (kind == WORD || kind == NUMBER) {
-                while (stop < size && kindAt(stop) == kind) {
+                while (stop < taped && kindAt(stop) == kind) {
                     stop++;
                 }
             } else if (kind != END) {
@@ -1284,10 +1268,10 @@ public final class SpentTurns {
         }
 
         private int kindAt(int i) {
-            if (i < 0 || i >= size) {
+            if (i < 0 || i >= taped) {
                 return END;
             }
-            int sign = bytes[i];
+            int sign = tape[i];
             if (sign >= 'a' && sign <= 'z') {
                 return WORD;
             }

@@ -102,6 +102,9 @@ public final class LanguageTest {
         for (String sign : new String[] {"->", "::", "\\[\\]\\[\\]\\[\\]", "@"}) {
             CHECK.due("the sign " + sign, Pattern.compile(sign).matcher(code).find() ? 1 : 0, 0);
         }
+        // rule 12: no constructor hands out a part of the object that it makes
+        CHECK.due("an own object made of another's parts", Pattern.compile("new [A-Z]\\w*\\([^)]").matcher(code).find() ? 1 : 0, 0);
+        CHECK.due("this handed out", Pattern.compile("[(,]\\s*this\\s*[,)]").matcher(code).find() ? 1 : 0, 0);
         // rule 4: Arrays.fill over arrays of numbers alone
         CHECK.due("arrays of boolean", Pattern.compile("boolean\\s*\\[").matcher(code).find() ? 1 : 0, 0);
         CHECK.due("joining texts by +", Pattern.compile("\"\"\\s*\\+|\\+\\s*\"\"").matcher(code).find() ? 1 : 0, 0);
